@@ -1,0 +1,306 @@
+/** Promises 1 to 5: a new object, feed, land, fault, where. */
+public final class LandTest {
+    private static final String HEAD = "land wide 2 high 1 law first";
+    private static final String ROW = ";row ab";
+    private static final String THINGS = ";thing t;thing u";
+    private static final String GOD = " plain price 0 serves 1 from 0 to 24";
+    private static final String GODS = ";god g" + GOD + ";god h" + GOD;
+    private static final String ALL = HEAD + ROW + THINGS + GODS;
+    private static final String PRAYER = " t at 0,0 hour 0 starts g 0 gift 0 need 0";
+    private static final String PRAYERS = ALL + ";prayer p" + PRAYER + ";prayer q" + PRAYER;
+
+    /** The place of the fault is where the bar stands; the bar itself isn't in the text. */
+    private static void fault(int number, String text) {
+        int place = text.indexOf('|');
+        String plain = text.substring(0, place) + text.substring(place + 1);
+        PrayerWay way = new PrayerWay();
+        Checks.refused("land: " + text, way, 4, Checks.land(way, plain));
+        Checks.due("fault of " + text, number, way.fault());
+        Checks.due("where of " + text, place, way.where());
+        Checks.due("tape behind " + text, 0, way.size(14));
+        Checks.due("no land behind " + text, 0, way.size(4));
+    }
+
+    private static void good(String text) {
+        PrayerWay way = new PrayerWay();
+        int got = Checks.land(way, text);
+        Checks.due("land stands, fault " + way.fault() + " at " + way.where() + ": " + text, 1, got > 0 ? 1 : 0);
+        Checks.due("no fault: " + text, 0, way.fault());
+        Checks.due("no place: " + text, -1, way.where());
+    }
+
+    private static String times(int n, String lines) {
+        StringBuilder all = new StringBuilder();
+        for (int i = 0; i < n; i++) {
+            all.append(lines.replace('#', (char) ('i' + i)));
+        }
+        return all.toString();
+    }
+
+    private static void newObject() {
+        PrayerWay way = new PrayerWay();
+        Checks.due("new: trouble", 0, way.trouble());
+        Checks.due("new: fault", 0, way.fault());
+        Checks.due("new: where", -1, way.where());
+        for (int what = 0; what <= 14; what++) {
+            Checks.due("new: size " + what, 0, way.size(what));
+        }
+        Checks.refused("new: points", way, 1, way.points());
+        Checks.refused("new: owners", way, 1, way.owners(0, 0, 99));
+        Checks.refused("new: has", way, 1, way.has(0, 0, 0, 99));
+        Checks.refused("new: soil", way, 1, way.soil(0, 0));
+    }
+
+    private static void feeding() {
+        PrayerWay way = new PrayerWay();
+        Checks.refused("land(1) of nothing", way, 2, way.land(1));
+        for (int i = 1; i <= 60; i++) {
+            Checks.due("feed " + i, 20 * i, way.feed(0, -1, 2, -3, Integer.MIN_VALUE));
+        }
+        Checks.due("feed beyond", -1, way.feed(0, 0, 0, 0, 0));
+        Checks.due("feed beyond leaves trouble", 2, way.trouble());
+        Checks.due("feed beyond leaves the tape", 1200, way.size(14));
+        Checks.refused("land(1201)", way, 2, way.land(1201));
+        Checks.refused("land(-1)", way, 2, way.land(-1));
+        Checks.due("the tape stays", 1200, way.size(14));
+        Checks.refused("land(1200)", way, 4, way.land(1200));
+        Checks.due("a bad first byte: fault", 1, way.fault());
+        Checks.due("a bad first byte: where", 0, way.where());
+        Checks.due("the tape is empty then", 0, way.size(14));
+        Checks.due("feed again", 20, way.feed(0x6c616e64, 0, 0, 0, 0));
+        Checks.due("feed leaves where", 0, way.where());
+        Checks.refused("the highest byte is first", way, 4, way.land(4));
+        Checks.due("the highest byte is first: where", 4, way.where());
+    }
+
+    private static void longest() {
+        StringBuilder text = new StringBuilder(ALL);
+        while (text.length() < 1199) {
+            text.append(' ');
+        }
+        PrayerWay way = new PrayerWay();
+        Checks.told("1,200 bytes", way, 2, Checks.land(way, text + " "));
+        Checks.told("1,200 bytes, not all of them taken", way, 2, Checks.land(way, text + "#") + taken(way, text));
+    }
+
+    private static int taken(PrayerWay way, StringBuilder text) {
+        Checks.due("the last byte is no token", 1199, way.where());
+        Checks.feed(way, (text + "#").getBytes());
+        return 1 + way.land(1199);
+    }
+
+    private static void staying() {
+        PrayerWay way = Checks.fresh(ALL);
+        way.sleep(0, true);
+        way.mark();
+        Checks.refused("a faulty land", way, 4, Checks.land(way, HEAD + ";x"));
+        Checks.due("the LAND stays", 2, way.size(4));
+        Checks.due("what was put to sleep stays", 1, way.god(0, 5));
+        Checks.due("where is gone by another call", -1, way.where());
+        Checks.due("fault stays", 1, way.fault());
+        Checks.due("its ACTS stay", 1, way.size(12));
+        Checks.due("its MARKS stay", 1, way.size(13));
+        Checks.refused("land by a number", way, 2, way.land(1));
+        Checks.due("fault of the latest not refused by 2", 1, way.fault());
+        Checks.due("where, refused by 2", -1, way.where());
+        way.seed(7);
+        Checks.told("a new LAND", way, 1, Checks.land(way, HEAD + ROW + ";thing t;god g" + GOD));
+        Checks.due("a new LAND: no fault", 0, way.fault());
+        Checks.due("a new LAND: nobody put to sleep", 0, way.god(0, 5));
+        Checks.due("a new LAND: SEED", 0, way.size(11));
+        Checks.due("a new LAND: nothing to undo", 0, way.size(12));
+        Checks.due("a new LAND: no MARKS", 0, way.size(13));
+    }
+
+    private static void form() {
+        fault(1, "|");
+        fault(1, "   |");
+        fault(1, "|foo");
+        fault(1, "|any");
+        fault(1, "|Land wide");
+        fault(1, "|;");
+        fault(1, "land |2");
+        fault(1, "land |high");
+        fault(1, "land wide |x");
+        fault(1, "land wide 2|");
+        fault(1, "land wide 2  |");
+        fault(1, "land wide 2 high 1 law |second");
+        fault(1, HEAD + "|,");
+        fault(1, HEAD + " |row ab");
+        fault(1, HEAD + ";|");
+        fault(1, HEAD + "; |;");
+        fault(1, HEAD + ";|any");
+        fault(1, HEAD + ";row |5");
+        fault(1, HEAD + ";row |abcdefghi");
+        fault(1, HEAD + ";thing |abcdefghi");
+        fault(1, HEAD + ";thing |5");
+        fault(1, HEAD + ";thing abc|5");
+        fault(1, HEAD + ";thing abc|-d");
+        fault(1, HEAD + ";thing abc|D");
+        fault(1, HEAD + ";thing a |b");
+        fault(1, HEAD + ";thing a|\u00e9");
+        fault(1, HEAD + ";thing a|\t");
+        fault(1, HEAD + ";luck |1000");
+        fault(1, HEAD + ";luck |0001");
+        fault(1, HEAD + ";luck 5|a");
+        fault(1, HEAD + ";luck |x");
+        for (String word : "land row thing luck god holds sends bars prayer clash village spell saw any".split(" ")) {
+            fault(1, HEAD + ";thing |" + word);
+            fault(1, ALL + ";sends g |" + word);
+            fault(1, ALL + ";bars |" + word);
+        }
+        fault(1, HEAD + ";god g |odd");
+        fault(1, HEAD + ";god g plain |serves");
+        fault(1, HEAD + ";god g plain price 1 serves 1 from 0 |till");
+        fault(1, ALL + ";holds g |land");
+        fault(1, ALL + ";holds g t |5");
+        fault(1, ALL + ";holds g t a |b");
+        fault(1, ALL + ";holds g t a 0 |24");
+        fault(1, ALL + ";prayer p |any");
+        fault(1, ALL + ";prayer p t at 0 |0");
+        fault(1, ALL + ";prayer p t at 0,0 |hours");
+        fault(1, PRAYERS + ";clash p |any");
+        fault(1, ALL + ";village v at 0,0 |g");
+        fault(1, ALL + ";spell |odd");
+        fault(1, ALL + ";spell adds |x");
+        fault(1, ALL + ";saw t a 0 |maybe");
+        fault(1, ALL + ";saw t a 0|");
+    }
+
+    private static void names() {
+        fault(2, ALL + ";holds |x");
+        fault(2, ALL + ";holds |t");
+        fault(2, ALL + ";holds g |x");
+        fault(2, ALL + ";holds g |h");
+        fault(2, ALL + ";sends |t");
+        fault(2, ALL + ";sends g |g");
+        fault(2, ALL + ";sends g t |u");
+        fault(2, ALL + ";bars g |x");
+        fault(2, ALL + ";prayer p |p");
+        fault(2, ALL + ";prayer p |g");
+        fault(2, ALL + ";prayer p t at 0,0 hour 0 starts |p");
+        fault(2, ALL + ";prayer p t at 0,0 hour 0 starts |t");
+        fault(2, PRAYERS + ";clash |g");
+        fault(2, PRAYERS + ";clash p |r");
+        fault(2, ALL + ";village v at 0,0 saint |v");
+        fault(2, ALL + ";saw |g");
+        fault(2, HEAD + ";holds |g");
+        fault(3, ALL + ";thing |t");
+        fault(3, ALL + ";thing |g");
+        fault(3, ALL + ";god |g");
+        fault(3, ALL + ";god |t");
+        fault(3, PRAYERS + ";prayer |p");
+        fault(3, PRAYERS + ";village |p");
+        fault(3, ALL + ";village v at 0,0 saint g;thing |v");
+        fault(3, ALL + ";sends g t |g");
+        fault(3, ALL + ";sends g t h;sends g |t");
+        fault(3, ALL + ";bars g |g");
+        fault(3, ALL + ";bars g h;bars g |h");
+        fault(3, PRAYERS + ";clash p |p");
+        fault(3, PRAYERS + ";clash p q;clash p |q");
+        fault(3, PRAYERS + ";clash p q;clash q |p");
+        fault(3, HEAD + ";|land");
+        fault(3, HEAD + ";luck 0;|luck");
+        good(ALL + ";bars g h;bars h g;sends g t h;sends g u h;sends h t g");
+        good(HEAD + ROW + ";thing wide;thing a;thing abcdefgh;god to" + GOD + ";holds to wide a 0 to 1");
+    }
+
+    private static void bounds() {
+        fault(4, "land wide |1");
+        fault(4, "land wide |7");
+        fault(4, "land wide 2 high |0");
+        fault(4, "land wide 2 high |5");
+        fault(4, HEAD + ";luck |100");
+        fault(4, HEAD + ";god g plain price |100");
+        fault(4, HEAD + ";god g plain price 0 serves |0");
+        fault(4, HEAD + ";god g plain price 0 serves |10");
+        fault(4, HEAD + ";god g plain price 0 serves 9 from |24");
+        fault(4, HEAD + ";god g plain price 0 serves 9 from 7 to |7");
+        fault(4, HEAD + ";god g plain price 0 serves 9 from 7 to |25");
+        fault(4, ALL + ";holds g t a |24");
+        fault(4, ALL + ";holds g t a 3 to |3");
+        fault(4, ALL + ";holds g t a 3 to |25");
+        fault(4, ALL + ";prayer p t at |2");
+        fault(4, ALL + ";prayer p t at 1,|1");
+        fault(4, ALL + ";prayer p t at 1,0 hour |24");
+        fault(4, ALL + ";prayer p t at 1,0 hour 23 starts g |24");
+        fault(4, ALL + ";prayer p t at 1,0 hour 23 starts g 23 gift |100");
+        fault(4, ALL + ";prayer p t at 1,0 hour 23 starts g 23 gift 99 need |100");
+        fault(4, ALL + ";village v at |2");
+        fault(4, ALL + ";village v at 0,|1");
+        fault(4, ALL + ";spell adds |0");
+        fault(4, ALL + ";spell adds |10");
+        fault(4, ALL + ";saw t a |24");
+        good("land wide 6 high 4 law need;row abcdea;row abcdea;row abcdea;row abcdea;luck 99;thing t"
+                + ";god g asleep price 99 serves 9 from 23 to 24;holds g any any 23 to 24"
+                + ";prayer p t at 5,3 hour 23 starts g 23 gift 99 need 99;village v at 5,3 saint g"
+                + ";spell shares 9;saw t e 23 no");
+        good("land wide 002high001law gift;row ab;thing t;god g" + GOD);
+    }
+
+    private static void many() {
+        fault(5, HEAD + times(6, ";thing #") + ";|thing");
+        fault(5, HEAD + times(6, ";god #" + GOD) + ";|god");
+        fault(5, HEAD + ";row ab;|row");
+        fault(5, "land wide 2 high 4 law need" + times(4, ";row ab") + ";|row ab");
+        fault(5, ALL + times(16, ";holds g t a 0 to 1") + ";|holds");
+        String six = ";thing t;thing u;thing v" + ";god g" + GOD + ";god h" + GOD + ";god i" + GOD + ";god j" + GOD;
+        String twelve = HEAD + six;
+        for (char god = 'g'; god <= 'j'; god++) {
+            for (char thing = 't'; thing <= 'v'; thing++) {
+                twelve += ";sends " + god + " " + thing + " " + (god == 'g' ? 'h' : 'g');
+            }
+        }
+        fault(5, twelve + ";|sends");
+        fault(5, HEAD + six + ";bars g h;bars h g;bars g i;bars i g;bars h i;bars i h;|bars");
+        fault(5, ALL + times(8, ";prayer #" + PRAYER) + ";|prayer");
+        fault(5, ALL + times(8, ";prayer #" + PRAYER) + ";clash i j;clash i k;clash i l;clash i m;clash i n"
+                + ";clash i o;clash i p;clash j k;|clash");
+        fault(5, ALL + times(4, ";village # at 0,0 saint g") + ";|village");
+        fault(5, ALL + times(6, ";spell adds 1") + ";|spell");
+        fault(5, ALL + times(8, ";saw t a 0 yes") + ";|saw");
+        good(ALL + times(4, ";thing #"));
+        good(ALL + times(4, ";god #" + GOD));
+        good(ALL + times(16, ";holds g t a 0 to 1") + times(8, ";saw t a 0 yes") + times(6, ";spell adds 1"));
+        good(ALL + times(8, ";prayer #" + PRAYER) + ";clash i j;clash i k;clash i l;clash i m;clash i n"
+                + ";clash i o;clash i p;clash j k");
+        good(ALL + times(4, ";village # at 0,0 saint g"));
+    }
+
+    private static void lacks() {
+        for (String word : "row thing luck god holds sends bars prayer clash village spell saw".split(" ")) {
+            fault(6, "|" + word);
+            fault(6, " |" + word + " x");
+        }
+        fault(6, HEAD + "|");
+        fault(6, HEAD + THINGS + GODS + "|");
+        fault(6, HEAD + ROW + GODS + "|");
+        fault(6, HEAD + ROW + THINGS + "  |");
+        fault(6, "land wide 2 high 2 law first" + ROW + THINGS + GODS + "|");
+        fault(7, HEAD + ";row |a");
+        fault(7, HEAD + ";row |abc");
+        fault(7, HEAD + ";row |af");
+        fault(7, "land wide 3 high 1 law first;row |any");
+        fault(7, "land wide 4 high 1 law first;row |land");
+        fault(7, ALL + ";holds g t |f");
+        fault(7, ALL + ";holds g t |aa");
+        fault(7, ALL + ";holds g any |land");
+        fault(7, ALL + ";saw t |any");
+        fault(7, ALL + ";saw t |f");
+        good(HEAD + THINGS + GODS + ROW);
+        good(" land  wide 2high 1law need ;row ee; thing t;god g" + GOD + " ");
+    }
+
+    public static void main(String[] args) {
+        newObject();
+        feeding();
+        longest();
+        staying();
+        form();
+        names();
+        bounds();
+        many();
+        lacks();
+        Checks.end("LandTest");
+    }
+}
