@@ -1191,10 +1191,14 @@ public final class PrayerWay {
                 return false;
             }
             int god = value;
-            if (!orAny(THING)) {
+            int thing = NOTHING;
+            if (tape.choice("any") != NONE) {
+                tape.advance();
+            } else if (use(THING)) {
+                thing = value;
+            } else {
                 return false;
             }
-            int thing = value;
             if (!ground(true)) {
                 return false;
             }
@@ -1377,15 +1381,6 @@ public final class PrayerWay {
                 return fail(FAULT_SOIL);
             }
             value = soil == SOILS ? NOTHING : soil;
-            tape.advance();
-            return true;
-        }
-
-        private boolean orAny(int sort) {
-            if (tape.choice(RESERVED) != ANY) {
-                return use(sort);
-            }
-            value = NOTHING;
             tape.advance();
             return true;
         }

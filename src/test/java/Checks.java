@@ -17,7 +17,7 @@ final class Checks {
         asked++;
         if (got != want) {
             wrong++;
-            if (wrong <= 40) {
+            if (wrong <= 20) {
                 System.out.println(call + " answered " + got + ", due is " + want);
             }
         }
