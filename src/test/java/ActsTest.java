@@ -105,6 +105,23 @@ public final class ActsTest {
         Checks.no("nothing more", way, 6, way.undo());
     }
 
+    /** What was asked ahead of undoing, or of going back, is asked anew behind it. */
+    private static void askedAnew() {
+        PrayerWay way = Checks.fresh(TEXT);
+        Checks.told("granted", way, 0, way.fate(0));
+        way.mark();
+        way.price(0, 4);
+        Checks.told("with h, who sleeps", way, 2, way.fate(0));
+        way.undo();
+        Checks.told("granted behind undo", way, 0, way.fate(0));
+        way.sleep(0, true);
+        Checks.told("g sleeps", way, 2, way.fate(0));
+        way.back(0);
+        Checks.told("granted behind back", way, 0, way.fate(0));
+        Checks.land(way, TEXT.replace("gift 3", "gift 2"));
+        Checks.told("too small a gift behind land", way, 2, way.fate(0));
+    }
+
     private static void undone() {
         PrayerWay way = Checks.fresh(TEXT);
         for (int v = 10; v < 25; v++) {
@@ -181,6 +198,7 @@ public final class ActsTest {
         sleep();
         ages();
         changes();
+        askedAnew();
         undone();
         marks();
         none();

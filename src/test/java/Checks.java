@@ -17,8 +17,9 @@ final class Checks {
         asked++;
         if (got != want) {
             wrong++;
-            if (wrong <= 20) {
-                System.out.println(call + " answered " + got + ", due is " + want);
+            if (wrong <= 12) {
+                String told = call.length() > 1300 ? call.substring(0, 1300) : call;
+                System.out.println(told + " answered " + got + ", due is " + want);
             }
         }
     }

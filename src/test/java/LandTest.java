@@ -112,6 +112,32 @@ public final class LandTest {
         Checks.due("a new LAND: no MARKS", 0, way.size(13));
     }
 
+    /** Of an old LAND nothing stays in a new one, though the object is the same. */
+    private static void again() {
+        PrayerWay way = Checks.fresh(PRAYERS + ";clash p q;luck 50;holds g any any 0 to 24;sends g t h;bars g h"
+                + ";village v at 0,0 saint h;spell adds 5;saw t a 0 yes");
+        Checks.told("clashing", way, 1, way.together());
+        Checks.told("the queue", way, 1, way.queue(0, 0));
+        for (int i = 0; i < 2; i++) {
+            Checks.told("again", way, 2, Checks.land(way, PRAYERS.replace("gift 0", "gift 7")));
+            Checks.told("luck", way, 0, way.left());
+            Checks.told("holds", way, 0, way.many(0));
+            Checks.told("sends", way, Checks.NOTHING, way.sends(0, 0));
+            Checks.told("bars", way, 0, way.bars(0, 1));
+            Checks.told("dead", way, 1, way.fate(0));
+            Checks.told("fits", way, 3, way.fits());
+            Checks.told("ends", way, 0, way.ends(2));
+            Checks.due("clashes", 0, way.size(7));
+            Checks.due("villages", 0, way.size(8));
+            Checks.told("a third", way, 2, Checks.land(way, PRAYERS + ";holds g t a 0 to 24"));
+            Checks.told("no clash", way, 3, way.together());
+            Checks.told("no other law", way, 0, way.size(2));
+        }
+        Checks.told("another name", way, 1, Checks.land(way, HEAD + ROW + ";thing g;god t" + GOD));
+        Checks.refused("no prayer", way, 1, way.fate(0));
+        Checks.noLed("nothing granted", way, 0);
+    }
+
     private static void form() {
         fault(1, "|");
         fault(1, "   |");
@@ -296,6 +322,7 @@ public final class LandTest {
         feeding();
         longest();
         staying();
+        again();
         form();
         names();
         bounds();
