@@ -1852,7 +1852,8 @@ public final class PrayerWay {
                     sharers++;
                 }
             }
-            return worths[village * GODS + god] / sharers;
+            int worth = worths[village * GODS + god];
+            return sharers > 1 ? worth / sharers : worth;
         }
 
         int bestFor(int village) {

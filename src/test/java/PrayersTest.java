@@ -194,6 +194,28 @@ public final class PrayersTest {
         Checks.refused("ring, no prayer below", way, 1, way.ring(-1));
     }
 
+    /** All six in one ring, in at every hour: the longest way there is. */
+    private static void longest() {
+        StringBuilder text = new StringBuilder("land wide 2 high 1 law need").append(HEAD);
+        for (char name = 'f'; name <= 'k'; name++) {
+            text.append(god(String.valueOf(name), "plain", 0, 1, "from 0 to 24"));
+        }
+        for (char name = 'f'; name <= 'k'; name++) {
+            text.append(";sends ").append(name).append(" t ").append(name == 'k' ? 'f' : (char) (name + 1));
+        }
+        PrayerWay way = Checks.fresh(text + prayer("p", "t at 1,0 hour 0", "h 0", 0, 0));
+        Checks.told("a ring of six", way, 6, way.ring(0));
+        way(way, 0, 2, Checks.NOTHING, (2 + 96) % 6, 0);
+        int[] gods = new int[97];
+        for (int i = 0; i < gods.length; i++) {
+            gods[i] = (2 + i) % 6;
+        }
+        path(way, 0, gods);
+        Checks.told("at the end it stands nowhere yet", way, 0, way.queue((2 + 96) % 6, 95));
+        way.send(1, 0, 0);
+        Checks.told("a ring of two, behind four", way, 2, way.ring(0));
+    }
+
     private static void refusals(PrayerWay way, int p) {
         Checks.refused("fate", way, 1, way.fate(p));
         Checks.refused("when", way, 1, way.when(p));
@@ -225,6 +247,7 @@ public final class PrayersTest {
         sendings();
         tempers();
         rings();
+        longest();
         none();
         Checks.end("PrayersTest");
     }

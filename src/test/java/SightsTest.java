@@ -41,6 +41,8 @@ public final class SightsTest {
         PrayerWay way = Checks.fresh(gods(2) + ";holds g t c 0 to 24");
         Checks.told("nothing parts them on the land: the first point", way, 100, way.ask());
         Checks.told("both stay", way, 2, way.askMost());
+        PrayerWay most = Checks.fresh(gods(4) + ";holds g t d 5 to 6");
+        Checks.told("askMost, unasked", most, 3, most.askMost());
         PrayerWay later = Checks.fresh(gods(2) + ";holds g u d 23 to 24");
         Checks.told("the last point of all", later, 1323, later.ask());
         PrayerWay unsaid = new PrayerWay();

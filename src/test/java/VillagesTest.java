@@ -49,6 +49,28 @@ public final class VillagesTest {
         Checks.refused("saint(-1)", way, 1, way.saint(-1));
     }
 
+    /** Each is asked first of all, and again behind an act, with nothing looked at ahead of it. */
+    private static void askedFirst() {
+        String text = HEAD + god('g', "plain") + god('h', "plain") + ";holds h t a 0 to 9;holds g t b 0 to 1"
+                + ";village v at 0,0 saint g";
+        PrayerWay saint = Checks.fresh(text);
+        Checks.told("saint first", saint, 1, saint.saint(0));
+        saint.sleep(1, true);
+        Checks.told("saint behind an act", saint, 0, saint.saint(0));
+        PrayerWay rest = Checks.fresh(text);
+        Checks.told("rest first", rest, 0, rest.rest());
+        rest.changes(0, 1);
+        Checks.told("rest behind an act", rest, 1, rest.rest());
+        PrayerWay rests = Checks.fresh(text);
+        Checks.told("rests first", rests, 1, rests.rests());
+        Checks.told("rests leaves the saints", rests, 0, rests.village(0, 1));
+        rests.sleep(1, true);
+        Checks.told("rests behind an act", rests, 2, rests.rests());
+        PrayerWay content = Checks.fresh(text);
+        content.changes(0, 1);
+        Checks.told("content behind an act", content, 9, content.content(0));
+    }
+
     private static void none() {
         PrayerWay bare = Checks.fresh(HEAD + god('g', "plain"));
         Checks.told("no villages: at rest", bare, 1, bare.rest());
@@ -79,6 +101,7 @@ public final class VillagesTest {
 
     private static void spells() {
         spells(";luck 7", 7, 1, 7, 7);
+        spells(";luck 7;spell shares 1;spell times 1", 7, 1, 7, 7);
         spells(";luck 2;spell takes 5;spell adds 3", 3, 2, 0, 3);
         spells(";luck 7;spell shares 2;spell times 2", 6, 2, 6, 7);
         spells(";spell shares 9;luck 80", 8, 1, 8, 8);
@@ -94,6 +117,7 @@ public final class VillagesTest {
 
     public static void main(String[] args) {
         villages();
+        askedFirst();
         none();
         spells();
         Checks.end("VillagesTest");
