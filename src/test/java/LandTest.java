@@ -1,41 +1,13 @@
 /** Promises 1 to 5: a new object, feed, land, fault, where. */
 public final class LandTest {
-    private static final String HEAD = "land wide 2 high 1 law first";
-    private static final String ROW = ";row ab";
-    private static final String THINGS = ";thing t;thing u";
-    private static final String GOD = " plain price 0 serves 1 from 0 to 24";
-    private static final String GODS = ";god g" + GOD + ";god h" + GOD;
-    private static final String ALL = HEAD + ROW + THINGS + GODS;
-    private static final String PRAYER = " t at 0,0 hour 0 starts g 0 gift 0 need 0";
-    private static final String PRAYERS = ALL + ";prayer p" + PRAYER + ";prayer q" + PRAYER;
-
-    /** The place of the fault is where the bar stands; the bar itself isn't in the text. */
-    private static void fault(int number, String text) {
-        int place = text.indexOf('|');
-        String plain = text.substring(0, place) + text.substring(place + 1);
-        PrayerWay way = new PrayerWay();
-        Checks.refused("land: " + text, way, 4, Checks.land(way, plain));
-        Checks.due("fault of " + text, number, way.fault());
-        Checks.due("where of " + text, place, way.where());
-        Checks.due("tape behind " + text, 0, way.size(14));
-        Checks.due("no land behind " + text, 0, way.size(4));
-    }
-
-    private static void good(String text) {
-        PrayerWay way = new PrayerWay();
-        int got = Checks.land(way, text);
-        Checks.due("land stands, fault " + way.fault() + " at " + way.where() + ": " + text, 1, got > 0 ? 1 : 0);
-        Checks.due("no fault: " + text, 0, way.fault());
-        Checks.due("no place: " + text, -1, way.where());
-    }
-
-    private static String times(int n, String lines) {
-        StringBuilder all = new StringBuilder();
-        for (int i = 0; i < n; i++) {
-            all.append(lines.replace('#', (char) ('i' + i)));
-        }
-        return all.toString();
-    }
+    private static final String HEAD = Texts.HEAD;
+    private static final String ROW = Texts.ROW;
+    private static final String THINGS = Texts.THINGS;
+    private static final String GOD = Texts.GOD;
+    private static final String GODS = Texts.GODS;
+    private static final String ALL = Texts.ALL;
+    private static final String PRAYER = Texts.PRAYER;
+    private static final String PRAYERS = Texts.PRAYERS;
 
     private static void newObject() {
         PrayerWay way = new PrayerWay();
@@ -139,137 +111,137 @@ public final class LandTest {
     }
 
     private static void form() {
-        fault(1, "|");
-        fault(1, "   |");
-        fault(1, "|foo");
-        fault(1, "|any");
-        fault(1, "|Land wide");
-        fault(1, "|;");
-        fault(1, "land |2");
-        fault(1, "land |high");
-        fault(1, "land wide |x");
-        fault(1, "land wide 2|");
-        fault(1, "land wide 2  |");
-        fault(1, "land wide 2 high 1 law |second");
-        fault(1, HEAD + "|,");
-        fault(1, HEAD + " |row ab");
-        fault(1, HEAD + ";|");
-        fault(1, HEAD + "; |;");
-        fault(1, HEAD + ";|any");
-        fault(1, HEAD + ";row |5");
-        fault(1, HEAD + ";row |abcdefghi");
-        fault(1, HEAD + ";thing |abcdefghi");
-        fault(1, HEAD + ";thing |5");
-        fault(1, HEAD + ";thing abc|5");
-        fault(1, HEAD + ";thing abc|-d");
-        fault(1, HEAD + ";thing abc|D");
-        fault(1, HEAD + ";thing a |b");
-        fault(1, HEAD + ";thing a|\u00e9");
-        fault(1, HEAD + ";thing a|\t");
-        fault(1, HEAD + ";luck |1000");
-        fault(1, HEAD + ";luck |0001");
-        fault(1, HEAD + ";luck 5|a");
-        fault(1, HEAD + ";luck |x");
-        for (String word : "land row thing luck god holds sends bars prayer clash village spell saw any".split(" ")) {
-            fault(1, HEAD + ";thing |" + word);
-            fault(1, ALL + ";sends g |" + word);
-            fault(1, ALL + ";bars |" + word);
+        Texts.fault(1, "|");
+        Texts.fault(1, "   |");
+        Texts.fault(1, "|foo");
+        Texts.fault(1, "|any");
+        Texts.fault(1, "|Land wide");
+        Texts.fault(1, "|;");
+        Texts.fault(1, "land |2");
+        Texts.fault(1, "land |high");
+        Texts.fault(1, "land wide |x");
+        Texts.fault(1, "land wide 2|");
+        Texts.fault(1, "land wide 2  |");
+        Texts.fault(1, "land wide 2 high 1 law |second");
+        Texts.fault(1, HEAD + "|,");
+        Texts.fault(1, HEAD + " |row ab");
+        Texts.fault(1, HEAD + ";|");
+        Texts.fault(1, HEAD + "; |;");
+        Texts.fault(1, HEAD + ";|any");
+        Texts.fault(1, HEAD + ";row |5");
+        Texts.fault(1, HEAD + ";row |abcdefghi");
+        Texts.fault(1, HEAD + ";thing |abcdefghi");
+        Texts.fault(1, HEAD + ";thing |5");
+        Texts.fault(1, HEAD + ";thing abc|5");
+        Texts.fault(1, HEAD + ";thing abc|-d");
+        Texts.fault(1, HEAD + ";thing abc|D");
+        Texts.fault(1, HEAD + ";thing a |b");
+        Texts.fault(1, HEAD + ";thing a|\u00e9");
+        Texts.fault(1, HEAD + ";thing a|\t");
+        Texts.fault(1, HEAD + ";luck |1000");
+        Texts.fault(1, HEAD + ";luck |0001");
+        Texts.fault(1, HEAD + ";luck 5|a");
+        Texts.fault(1, HEAD + ";luck |x");
+        for (String word : Texts.RESERVED) {
+            Texts.fault(1, HEAD + ";thing |" + word);
+            Texts.fault(1, ALL + ";sends g |" + word);
+            Texts.fault(1, ALL + ";bars |" + word);
         }
-        fault(1, HEAD + ";god g |odd");
-        fault(1, HEAD + ";god g plain |serves");
-        fault(1, HEAD + ";god g plain price 1 serves 1 from 0 |till");
-        fault(1, ALL + ";holds g |land");
-        fault(1, ALL + ";holds g t |5");
-        fault(1, ALL + ";holds g t a |b");
-        fault(1, ALL + ";holds g t a 0 |24");
-        fault(1, ALL + ";prayer p |any");
-        fault(1, ALL + ";prayer p t at 0 |0");
-        fault(1, ALL + ";prayer p t at 0,0 |hours");
-        fault(1, PRAYERS + ";clash p |any");
-        fault(1, ALL + ";village v at 0,0 |g");
-        fault(1, ALL + ";spell |odd");
-        fault(1, ALL + ";spell adds |x");
-        fault(1, ALL + ";saw t a 0 |maybe");
-        fault(1, ALL + ";saw t a 0|");
+        Texts.fault(1, HEAD + ";god g |odd");
+        Texts.fault(1, HEAD + ";god g plain |serves");
+        Texts.fault(1, HEAD + ";god g plain price 1 serves 1 from 0 |till");
+        Texts.fault(1, ALL + ";holds g |land");
+        Texts.fault(1, ALL + ";holds g t |5");
+        Texts.fault(1, ALL + ";holds g t a |b");
+        Texts.fault(1, ALL + ";holds g t a 0 |24");
+        Texts.fault(1, ALL + ";prayer p |any");
+        Texts.fault(1, ALL + ";prayer p t at 0 |0");
+        Texts.fault(1, ALL + ";prayer p t at 0,0 |hours");
+        Texts.fault(1, PRAYERS + ";clash p |any");
+        Texts.fault(1, ALL + ";village v at 0,0 |g");
+        Texts.fault(1, ALL + ";spell |odd");
+        Texts.fault(1, ALL + ";spell adds |x");
+        Texts.fault(1, ALL + ";saw t a 0 |maybe");
+        Texts.fault(1, ALL + ";saw t a 0|");
     }
 
     private static void names() {
-        fault(2, ALL + ";holds |x");
-        fault(2, ALL + ";holds |t");
-        fault(2, ALL + ";holds g |x");
-        fault(2, ALL + ";holds g |h");
-        fault(2, ALL + ";sends |t");
-        fault(2, ALL + ";sends g |g");
-        fault(2, ALL + ";sends g t |u");
-        fault(2, ALL + ";bars g |x");
-        fault(2, ALL + ";prayer p |p");
-        fault(2, ALL + ";prayer p |g");
-        fault(2, ALL + ";prayer p t at 0,0 hour 0 starts |p");
-        fault(2, ALL + ";prayer p t at 0,0 hour 0 starts |t");
-        fault(2, PRAYERS + ";clash |g");
-        fault(2, PRAYERS + ";clash p |r");
-        fault(2, ALL + ";village v at 0,0 saint |v");
-        fault(2, ALL + ";saw |g");
-        fault(2, HEAD + ";holds |g");
-        fault(3, ALL + ";thing |t");
-        fault(3, ALL + ";thing |g");
-        fault(3, ALL + ";god |g");
-        fault(3, ALL + ";god |t");
-        fault(3, PRAYERS + ";prayer |p");
-        fault(3, PRAYERS + ";village |p");
-        fault(3, ALL + ";village v at 0,0 saint g;thing |v");
-        fault(3, ALL + ";sends g t |g");
-        fault(3, ALL + ";sends g t h;sends g |t");
-        fault(3, ALL + ";bars g |g");
-        fault(3, ALL + ";bars g h;bars g |h");
-        fault(3, PRAYERS + ";clash p |p");
-        fault(3, PRAYERS + ";clash p q;clash p |q");
-        fault(3, PRAYERS + ";clash p q;clash q |p");
-        fault(3, HEAD + ";|land");
-        fault(3, HEAD + ";luck 0;|luck");
-        good(ALL + ";bars g h;bars h g;sends g t h;sends g u h;sends h t g");
-        good(HEAD + ROW + ";thing wide;thing a;thing abcdefgh;god to" + GOD + ";holds to wide a 0 to 1");
+        Texts.fault(2, ALL + ";holds |x");
+        Texts.fault(2, ALL + ";holds |t");
+        Texts.fault(2, ALL + ";holds g |x");
+        Texts.fault(2, ALL + ";holds g |h");
+        Texts.fault(2, ALL + ";sends |t");
+        Texts.fault(2, ALL + ";sends g |g");
+        Texts.fault(2, ALL + ";sends g t |u");
+        Texts.fault(2, ALL + ";bars g |x");
+        Texts.fault(2, ALL + ";prayer p |p");
+        Texts.fault(2, ALL + ";prayer p |g");
+        Texts.fault(2, ALL + ";prayer p t at 0,0 hour 0 starts |p");
+        Texts.fault(2, ALL + ";prayer p t at 0,0 hour 0 starts |t");
+        Texts.fault(2, PRAYERS + ";clash |g");
+        Texts.fault(2, PRAYERS + ";clash p |r");
+        Texts.fault(2, ALL + ";village v at 0,0 saint |v");
+        Texts.fault(2, ALL + ";saw |g");
+        Texts.fault(2, HEAD + ";holds |g");
+        Texts.fault(3, ALL + ";thing |t");
+        Texts.fault(3, ALL + ";thing |g");
+        Texts.fault(3, ALL + ";god |g");
+        Texts.fault(3, ALL + ";god |t");
+        Texts.fault(3, PRAYERS + ";prayer |p");
+        Texts.fault(3, PRAYERS + ";village |p");
+        Texts.fault(3, ALL + ";village v at 0,0 saint g;thing |v");
+        Texts.fault(3, ALL + ";sends g t |g");
+        Texts.fault(3, ALL + ";sends g t h;sends g |t");
+        Texts.fault(3, ALL + ";bars g |g");
+        Texts.fault(3, ALL + ";bars g h;bars g |h");
+        Texts.fault(3, PRAYERS + ";clash p |p");
+        Texts.fault(3, PRAYERS + ";clash p q;clash p |q");
+        Texts.fault(3, PRAYERS + ";clash p q;clash q |p");
+        Texts.fault(3, HEAD + ";|land");
+        Texts.fault(3, HEAD + ";luck 0;|luck");
+        Texts.good(ALL + ";bars g h;bars h g;sends g t h;sends g u h;sends h t g");
+        Texts.good(HEAD + ROW + ";thing wide;thing a;thing abcdefgh;god to" + GOD + ";holds to wide a 0 to 1");
     }
 
     private static void bounds() {
-        fault(4, "land wide |1");
-        fault(4, "land wide |7");
-        fault(4, "land wide 2 high |0");
-        fault(4, "land wide 2 high |5");
-        fault(4, HEAD + ";luck |100");
-        fault(4, HEAD + ";god g plain price |100");
-        fault(4, HEAD + ";god g plain price 0 serves |0");
-        fault(4, HEAD + ";god g plain price 0 serves |10");
-        fault(4, HEAD + ";god g plain price 0 serves 9 from |24");
-        fault(4, HEAD + ";god g plain price 0 serves 9 from 7 to |7");
-        fault(4, HEAD + ";god g plain price 0 serves 9 from 7 to |25");
-        fault(4, ALL + ";holds g t a |24");
-        fault(4, ALL + ";holds g t a 3 to |3");
-        fault(4, ALL + ";holds g t a 3 to |25");
-        fault(4, ALL + ";prayer p t at |2");
-        fault(4, ALL + ";prayer p t at 1,|1");
-        fault(4, ALL + ";prayer p t at 1,0 hour |24");
-        fault(4, ALL + ";prayer p t at 1,0 hour 23 starts g |24");
-        fault(4, ALL + ";prayer p t at 1,0 hour 23 starts g 23 gift |100");
-        fault(4, ALL + ";prayer p t at 1,0 hour 23 starts g 23 gift 99 need |100");
-        fault(4, ALL + ";village v at |2");
-        fault(4, ALL + ";village v at 0,|1");
-        fault(4, ALL + ";spell adds |0");
-        fault(4, ALL + ";spell adds |10");
-        fault(4, ALL + ";saw t a |24");
-        good("land wide 6 high 4 law need;row abcdea;row abcdea;row abcdea;row abcdea;luck 99;thing t"
+        Texts.fault(4, "land wide |1");
+        Texts.fault(4, "land wide |7");
+        Texts.fault(4, "land wide 2 high |0");
+        Texts.fault(4, "land wide 2 high |5");
+        Texts.fault(4, HEAD + ";luck |100");
+        Texts.fault(4, HEAD + ";god g plain price |100");
+        Texts.fault(4, HEAD + ";god g plain price 0 serves |0");
+        Texts.fault(4, HEAD + ";god g plain price 0 serves |10");
+        Texts.fault(4, HEAD + ";god g plain price 0 serves 9 from |24");
+        Texts.fault(4, HEAD + ";god g plain price 0 serves 9 from 7 to |7");
+        Texts.fault(4, HEAD + ";god g plain price 0 serves 9 from 7 to |25");
+        Texts.fault(4, ALL + ";holds g t a |24");
+        Texts.fault(4, ALL + ";holds g t a 3 to |3");
+        Texts.fault(4, ALL + ";holds g t a 3 to |25");
+        Texts.fault(4, ALL + ";prayer p t at |2");
+        Texts.fault(4, ALL + ";prayer p t at 1,|1");
+        Texts.fault(4, ALL + ";prayer p t at 1,0 hour |24");
+        Texts.fault(4, ALL + ";prayer p t at 1,0 hour 23 starts g |24");
+        Texts.fault(4, ALL + ";prayer p t at 1,0 hour 23 starts g 23 gift |100");
+        Texts.fault(4, ALL + ";prayer p t at 1,0 hour 23 starts g 23 gift 99 need |100");
+        Texts.fault(4, ALL + ";village v at |2");
+        Texts.fault(4, ALL + ";village v at 0,|1");
+        Texts.fault(4, ALL + ";spell adds |0");
+        Texts.fault(4, ALL + ";spell adds |10");
+        Texts.fault(4, ALL + ";saw t a |24");
+        Texts.good("land wide 6 high 4 law need;row abcdea;row abcdea;row abcdea;row abcdea;luck 99;thing t"
                 + ";god g asleep price 99 serves 9 from 23 to 24;holds g any any 23 to 24"
                 + ";prayer p t at 5,3 hour 23 starts g 23 gift 99 need 99;village v at 5,3 saint g"
                 + ";spell shares 9;saw t e 23 no");
-        good("land wide 002high001law gift;row ab;thing t;god g" + GOD);
+        Texts.good("land wide 002high001law gift;row ab;thing t;god g" + GOD);
     }
 
     private static void many() {
-        fault(5, HEAD + times(6, ";thing #") + ";|thing");
-        fault(5, HEAD + times(6, ";god #" + GOD) + ";|god");
-        fault(5, HEAD + ";row ab;|row");
-        fault(5, "land wide 2 high 4 law need" + times(4, ";row ab") + ";|row ab");
-        fault(5, ALL + times(16, ";holds g t a 0 to 1") + ";|holds");
+        Texts.fault(5, HEAD + Texts.times(6, ";thing #") + ";|thing");
+        Texts.fault(5, HEAD + Texts.times(6, ";god #" + GOD) + ";|god");
+        Texts.fault(5, HEAD + ";row ab;|row");
+        Texts.fault(5, "land wide 2 high 4 law need" + Texts.times(4, ";row ab") + ";|row ab");
+        Texts.fault(5, ALL + Texts.times(16, ";holds g t a 0 to 1") + ";|holds");
         String six = ";thing t;thing u;thing v" + ";god g" + GOD + ";god h" + GOD + ";god i" + GOD + ";god j" + GOD;
         String twelve = HEAD + six;
         for (char god = 'g'; god <= 'j'; god++) {
@@ -277,44 +249,44 @@ public final class LandTest {
                 twelve += ";sends " + god + " " + thing + " " + (god == 'g' ? 'h' : 'g');
             }
         }
-        fault(5, twelve + ";|sends");
-        fault(5, HEAD + six + ";bars g h;bars h g;bars g i;bars i g;bars h i;bars i h;|bars");
-        fault(5, ALL + times(8, ";prayer #" + PRAYER) + ";|prayer");
-        fault(5, ALL + times(8, ";prayer #" + PRAYER) + ";clash i j;clash i k;clash i l;clash i m;clash i n"
+        Texts.fault(5, twelve + ";|sends");
+        Texts.fault(5, HEAD + six + ";bars g h;bars h g;bars g i;bars i g;bars h i;bars i h;|bars");
+        Texts.fault(5, ALL + Texts.times(8, ";prayer #" + PRAYER) + ";|prayer");
+        Texts.fault(5, ALL + Texts.times(8, ";prayer #" + PRAYER) + ";clash i j;clash i k;clash i l;clash i m;clash i n"
                 + ";clash i o;clash i p;clash j k;|clash");
-        fault(5, ALL + times(4, ";village # at 0,0 saint g") + ";|village");
-        fault(5, ALL + times(6, ";spell adds 1") + ";|spell");
-        fault(5, ALL + times(8, ";saw t a 0 yes") + ";|saw");
-        good(ALL + times(4, ";thing #"));
-        good(ALL + times(4, ";god #" + GOD));
-        good(ALL + times(16, ";holds g t a 0 to 1") + times(8, ";saw t a 0 yes") + times(6, ";spell adds 1"));
-        good(ALL + times(8, ";prayer #" + PRAYER) + ";clash i j;clash i k;clash i l;clash i m;clash i n"
+        Texts.fault(5, ALL + Texts.times(4, ";village # at 0,0 saint g") + ";|village");
+        Texts.fault(5, ALL + Texts.times(6, ";spell adds 1") + ";|spell");
+        Texts.fault(5, ALL + Texts.times(8, ";saw t a 0 yes") + ";|saw");
+        Texts.good(ALL + Texts.times(4, ";thing #"));
+        Texts.good(ALL + Texts.times(4, ";god #" + GOD));
+        Texts.good(ALL + ";holds g t a 0 to 1".repeat(16) + ";saw t a 0 yes".repeat(8) + ";spell adds 1".repeat(6));
+        Texts.good(ALL + Texts.times(8, ";prayer #" + PRAYER) + ";clash i j;clash i k;clash i l;clash i m;clash i n"
                 + ";clash i o;clash i p;clash j k");
-        good(ALL + times(4, ";village # at 0,0 saint g"));
+        Texts.good(ALL + Texts.times(4, ";village # at 0,0 saint g"));
     }
 
     private static void lacks() {
         for (String word : "row thing luck god holds sends bars prayer clash village spell saw".split(" ")) {
-            fault(6, "|" + word);
-            fault(6, " |" + word + " x");
+            Texts.fault(6, "|" + word);
+            Texts.fault(6, " |" + word + " x");
         }
-        fault(6, HEAD + "|");
-        fault(6, HEAD + THINGS + GODS + "|");
-        fault(6, HEAD + ROW + GODS + "|");
-        fault(6, HEAD + ROW + THINGS + "  |");
-        fault(6, "land wide 2 high 2 law first" + ROW + THINGS + GODS + "|");
-        fault(7, HEAD + ";row |a");
-        fault(7, HEAD + ";row |abc");
-        fault(7, HEAD + ";row |af");
-        fault(7, "land wide 3 high 1 law first;row |any");
-        fault(7, "land wide 4 high 1 law first;row |land");
-        fault(7, ALL + ";holds g t |f");
-        fault(7, ALL + ";holds g t |aa");
-        fault(7, ALL + ";holds g any |land");
-        fault(7, ALL + ";saw t |any");
-        fault(7, ALL + ";saw t |f");
-        good(HEAD + THINGS + GODS + ROW);
-        good(" land  wide 2high 1law need ;row ee; thing t;god g" + GOD + " ");
+        Texts.fault(6, HEAD + "|");
+        Texts.fault(6, HEAD + THINGS + GODS + "|");
+        Texts.fault(6, HEAD + ROW + GODS + "|");
+        Texts.fault(6, HEAD + ROW + THINGS + "  |");
+        Texts.fault(6, "land wide 2 high 2 law first" + ROW + THINGS + GODS + "|");
+        Texts.fault(7, HEAD + ";row |a");
+        Texts.fault(7, HEAD + ";row |abc");
+        Texts.fault(7, HEAD + ";row |af");
+        Texts.fault(7, "land wide 3 high 1 law first;row |any");
+        Texts.fault(7, "land wide 4 high 1 law first;row |land");
+        Texts.fault(7, ALL + ";holds g t |f");
+        Texts.fault(7, ALL + ";holds g t |aa");
+        Texts.fault(7, ALL + ";holds g any |land");
+        Texts.fault(7, ALL + ";saw t |any");
+        Texts.fault(7, ALL + ";saw t |f");
+        Texts.good(HEAD + THINGS + GODS + ROW);
+        Texts.good(" land  wide 2high 1law need ;row ee; thing t;god g" + GOD + " ");
     }
 
     public static void main(String[] args) {
