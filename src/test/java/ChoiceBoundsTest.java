@@ -48,11 +48,20 @@ public final class ChoiceBoundsTest {
             PrayerWay one = Checks.fresh(gods(6) + ";holds " + name + " t a 0 to 1" + prayer('p', 'g', 0));
             Checks.told("only with " + name, one, n, one.start(0));
         }
-        PrayerWay like = Checks.fresh(gods(6) + ";holds h t a 0 to 1;holds k t a 0 to 1;holds l t a 0 to 1" + prayer('p', 'g', 0));
+        PrayerWay like = Checks.fresh(gods(6) + ";holds h t a 0 to 1;holds k t a 0 to 1;holds l t a 0 to 1"
+                + prayer('p', 'g', 0));
         Checks.told("the first of like ones", like, 1, like.start(0));
         PrayerWay sooner = Checks.fresh(HEAD + god('g', "plain", 6, 24) + god('h', "plain", 5, 24) + god('i', "plain", 5, 24)
                 + ";holds g t a 0 to 1;holds h t a 0 to 1;holds i t a 0 to 1" + prayer('p', 'g', 0));
         Checks.told("soonest, not first told", sooner, 1, sooner.start(0));
+        // All of them only on the next day: still the soonest.
+        PrayerWay next = Checks.fresh(HEAD + god('g', "plain", 4, 5) + god('h', "plain", 3, 4) + ";holds g t a 0 to 1"
+                + ";holds h t a 0 to 1" + prayer('p', 'g', 23));
+        Checks.told("with g", next, 28, next.alone(0, 0));
+        Checks.told("with h", next, 27, next.alone(0, 1));
+        Checks.told("h", next, 1, next.start(0));
+        next.sleep(1, true);
+        Checks.told("g", next, 0, next.start(0));
         // Granted in the last hour of all is granted still.
         String chain = HEAD + god('g', "plain", 0, 1) + god('h', "plain", 0, 1) + god('i', "plain", 0, 1)
                 + god('j', "plain", 23, 24) + ";holds j t a 0 to 1;sends g t h;sends h t i;sends i t j" + prayer('p', 'g', 1);
@@ -188,6 +197,12 @@ public final class ChoiceBoundsTest {
         // That point where no cell is: it can.
         PrayerWay away = Checks.fresh(each + ";holds g u c 4 to 5;holds h u c 4 to 5");
         Checks.told("off the land it doesn't count", away, 63, away.once());
+        // Each thing on each soil counts, be its number the soil's or not, and the last soil too.
+        PrayerWay cross = Checks.fresh("land wide 2 high 1 law need;row ea;thing t;thing u" + god('g', "plain", 0, 1)
+                + god('h', "plain", 0, 1) + god('i', "plain", 0, 1)
+                + ";holds g u a 0 to 1;holds h t e 0 to 1;holds i u e 0 to 1");
+        Checks.told("three of three", cross, 7, cross.keep());
+        Checks.told("three of three, once", cross, 7, cross.once());
         PrayerWay like = Checks.fresh(gods(6) + ";holds h t a 0 to 9;holds k t a 0 to 9;holds l t a 0 to 9");
         Checks.told("of like ones the least", like, 2, like.keep());
         Checks.told("of like ones the least, once", like, 2, like.once());
@@ -384,6 +399,9 @@ public final class ChoiceBoundsTest {
         PrayerWay five = Checks.fresh(gods(5) + ";holds g t a 7 to 8;holds h t a 7 to 8;holds i t a 7 to 8");
         Checks.told("three with yes", five, 7, five.ask());
         Checks.told("three at most", five, 3, five.askMost());
+        PrayerWay alike = Checks.fresh(gods(6));
+        Checks.told("six, and nothing parts them: the first point", alike, 0, alike.ask());
+        Checks.told("all six stay", alike, 6, alike.askMost());
         // Where no cell is, nothing is asked.
         PrayerWay away = Checks.fresh(gods(2) + ";holds g t c 0 to 24");
         Checks.told("the first point, for nothing parts them", away, 0, away.ask());

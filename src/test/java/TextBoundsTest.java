@@ -227,7 +227,10 @@ public final class TextBoundsTest {
         fault(3, ALL + ";luck 5;|luck");
     }
 
-    /** "god NAME KIND price WHOLE serves WHOLE from WHOLE to WHOLE (..; 0 .. 99, 1 .. 9; 0 .. 23, above that up to 24; up to 6)" */
+    /**
+     * "god NAME KIND price WHOLE serves WHOLE from WHOLE to WHOLE (..; 0 .. 99, 1 .. 9; 0 .. 23, above that up to 24;
+     * up to 6)"
+     */
     private static void godLine() {
         String head = HEAD + Texts.ROW + ";thing t;god g ";
         String[] kinds = {"plain", "proud", "jealous", "asleep"};
@@ -376,7 +379,10 @@ public final class TextBoundsTest {
         fault(3, prayers + ";clash i p;clash i o;clash o p;clash p |i");
     }
 
-    /** "village .. (up to 4), or spell SORT WHOLE (..; 1 .. 9; up to 6), or saw THING SOIL WHOLE ANSWER (SOIL not any; 0 .. 23; ..; up to 8)" */
+    /**
+     * "village .. (up to 4), or spell SORT WHOLE (..; 1 .. 9; up to 6), or saw THING SOIL WHOLE ANSWER (SOIL not any;
+     * 0 .. 23; ..; up to 8)"
+     */
     private static void lastLines() {
         for (int n = 0; n <= 4; n++) {
             Checks.due("villages", n, good(ALL + Texts.times(n, ";village # at 0,0 saint g")).size(8));
@@ -562,7 +568,46 @@ public final class TextBoundsTest {
         fault(6, HEAD + thing + god + ";luck 5;spell adds 1;holds g t a 0 to 1|");
     }
 
+    /** "TOKEN with which no LAND goes on (the end: its place)": each line cut short behind each of its tokens. */
+    private static void cutShort() {
+        String[] lines = {"row ab", "thing x", "luck 5", "god x plain price 0 serves 1 from 0 to 24", "holds g t a 0 to 1",
+            "holds g any any 0 to 1", "sends g t h", "bars g h", "prayer x t at 0 , 0 hour 0 starts g 0 gift 0 need 0",
+            "clash p q", "village x at 0 , 0 saint g", "spell adds 1", "saw t a 0 yes"};
+        for (String line : lines) {
+            boolean row = line.startsWith("row");
+            String before = row ? PRAYERS.replace(Texts.ROW, "") : PRAYERS;
+            String[] tokens = line.split(" ");
+            String text = before + ";";
+            for (int i = 0; i < tokens.length; i++) {
+                fault(1, text + "|");
+                fault(1, text + "   |");
+                fault(1, text + "|;luck 9");
+                fault(1, text + (tokens[i].equals(",") ? ",|," : "|,"));
+                fault(1, text + "|#");
+                fault(1, text + "|abcdefghi");
+                fault(1, text + "|1234");
+                text += tokens[i] + " ";
+            }
+            good(text);
+            good(text + ";luck 9".repeat(line.startsWith("luck") ? 0 : 1));
+            fault(1, text + "|, ");
+            fault(1, text + "|x");
+            fault(1, text + "|7");
+            fault(1, text + "|luck 9");
+        }
+        String[] tokens = "land wide 2 high 1 law first".split(" ");
+        String text = "";
+        for (String token : tokens) {
+            fault(1, text + "|");
+            fault(1, text + "|;");
+            fault(1, text + "|,");
+            text += token + " ";
+        }
+        fault(6, text + "|");
+    }
+
     public static void main(String[] args) {
+        cutShort();
         blanks();
         everyByte();
         signs();
