@@ -418,6 +418,26 @@ public final class DaysBoundsTest {
         Checks.told("all eight stand to the end", way, 8, way.queue(0, 95));
     }
 
+    /** Eight at once who go round without a rest: each comes to an altar in every hour, and to one behind the last. */
+    private static void eightRound() {
+        StringBuilder text = new StringBuilder(HEAD + god("g", "plain", 0, 9, 0, 24) + god("h", "plain", 0, 9, 0, 24)
+                + ";sends g t h;sends h t g");
+        for (int p = 0; p < 8; p++) {
+            text.append(prayer("p" + (char) ('a' + p), 0, p % 2 == 0 ? "g" : "h", 0, 0));
+        }
+        PrayerWay way = Checks.fresh(text.toString());
+        for (int p = 0; p < 8; p++) {
+            way(way, p, 2, -2, p % 2, 0);
+            Checks.told("altars", way, 97, way.altars(p));
+            Checks.told("the first", way, p % 2, way.altar(p, 0));
+            Checks.told("the second", way, 1 - p % 2, way.altar(p, 1));
+            Checks.told("the last but one", way, 1 - p % 2, way.altar(p, 95));
+            Checks.told("the last", way, p % 2, way.altar(p, 96));
+            Checks.refused("none more", way, 1, way.altar(p, 97));
+        }
+        Checks.told("none stands behind the last hour", way, 0, way.queue(0, 95) + way.queue(1, 95));
+    }
+
     /** No prayers, no grants: nothing is added up, nothing stands. */
     private static void noPrayers() {
         PrayerWay way = Checks.fresh(HEAD + plain("g", 0, 24));
@@ -451,6 +471,7 @@ public final class DaysBoundsTest {
         waits();
         again();
         eightLost();
+        eightRound();
         noPrayers();
         Checks.end("DaysBoundsTest");
     }
