@@ -1923,18 +1923,18 @@ public final class PrayerWay {
                 return;
             }
             found = 0;
-            follow(land, land.luck, (1 << land.counts[SPELL]) - 1, 0);
+            follow(this, land, land.luck, (1 << land.counts[SPELL]) - 1, 0);
             known = true;
         }
 
-        private void follow(Land land, int luck, int unused, int depth) {
+        private static void follow(Spells spells, Land land, int luck, int unused, int depth) {
             if (unused == 0 || depth >= SPELLS) {
-                note(luck);
+                spells.note(luck);
                 return;
             }
             for (int spell = 0; spell < SPELLS; spell++) {
                 if ((unused >> spell & 1) == 1) {
-                    follow(land, cast(land, spell, luck), unused & ~(1 << spell), depth + 1);
+                    follow(spells, land, cast(land, spell, luck), unused & ~(1 << spell), depth + 1);
                 }
             }
         }

@@ -110,6 +110,21 @@ public final class FaceTest {
         }
     }
 
+    /** Rule 8: what calls itself is private and static. */
+    private static void recursion() throws IOException {
+        String code = Files.readString(CLASS);
+        Matcher methods = Pattern.compile("(?ms)^( {4}(?: {4})?)([\\w ]*?)\\b(\\w+)\\([^;{}]*?\\) \\{\\n(.*?)^\\1\\}$").matcher(code);
+        int found = 0;
+        while (methods.find()) {
+            if (Pattern.compile("(?<![.\\w])" + methods.group(3) + "\\(").matcher(methods.group(4)).find()) {
+                found++;
+                Checks.due("private and static: " + methods.group(3), 1,
+                        methods.group(2).startsWith("private static ") ? 1 : 0);
+            }
+        }
+        Checks.due("methods that call themselves", 1, found);
+    }
+
     private static boolean isClassEnd(String[] lines, int i) {
         return lines[i].equals("    }") && i > 0 && lines[i - 1].equals("        }");
     }
@@ -118,6 +133,7 @@ public final class FaceTest {
         face();
         inside();
         text();
+        recursion();
         Checks.end("FaceTest");
     }
 }
